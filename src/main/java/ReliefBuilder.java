@@ -103,7 +103,7 @@ public final class ReliefBuilder {
 
     private void endText() {
         latestCode = tokens.code;
-        latestPosition = tokens.code == 0 ? NONE : tokens.presentStart();
+        latestPosition = tokens.code == 0 ? NONE : tokens.start;
         tokens.length = 0;
     }
 
@@ -1637,12 +1637,15 @@ public final class ReliefBuilder {
 
         private final byte[] bytes = new byte[MOST_BYTES];
         private final int[] starts = new int[MOST_BYTES + 1];
-        private final int[] lengths = new int[MOST_BYTES + 1];
+        private final int[] sizes = new int[MOST_BYTES + 1];
         private final int[] kinds = new int[MOST_BYTES + 1];
         int length;
         private int count;
-        /** The number of the present token; when there is an error, it stays there. */
         private int present;
+        private int kind;
+        /** Of the present token, which stays there when it is an error. */
+        int start;
+        private int size;
         int code;
 
         boolean hasRoomFor(int more) {
@@ -1670,19 +1673,20 @@ public final class ReliefBuilder {
         /** Cuts the text into tokens. A wrong one is an error only when it is the present one. */
         void begin() {
             code = 0;
-            present = 0;
             count = 0;
             int previous = BLANK;
             for (int i = 0; i < length; i++) {
-                int kind = kindOf(byteAt(i));
-                if (kind == previous && (kind == WORD || kind == NUMBER)) {
+                int next = kindOf(byteAt(i));
+                if (next == previous && (next == WORD || next == NUMBER)) {
                     lengthenToken();
-                } else if (kind != BLANK) {
-                    addToken(i, kind);
+                } else if (next != BLANK) {
+                    addToken(i, next);
                 }
-                previous = kind;
+                previous = next;
             }
             addToken(length, END);
+            present = -1;
+            advance();
         }
 
         private static int kindOf(int b) {
@@ -1698,11 +1702,11 @@ public final class ReliefBuilder {
             return b == ';' || b == '(' || b == ')' ? SIGN : INVALID;
         }
 
-        private void addToken(int start, int kind) {
+        private void addToken(int from, int tokenKind) {
             if (count >= 0 && count < kinds.length) {
-                starts[count] = start;
-                lengths[count] = 1;
-                kinds[count] = kind;
+                starts[count] = from;
+                sizes[count] = 1;
+                kinds[count] = tokenKind;
                 count++;
             }
         }
@@ -1710,45 +1714,34 @@ public final class ReliefBuilder {
         private void lengthenToken() {
             int latest = count - 1;
             if (latest >= 0 && latest < kinds.length) {
-                lengths[latest]++;
+                sizes[latest]++;
             }
-        }
-
-        private boolean isPresent() {
-            return present >= 0 && present < count && present < kinds.length;
-        }
-
-        int presentStart() {
-            return isPresent() ? starts[present] : length;
-        }
-
-        private int presentLength() {
-            return isPresent() ? lengths[present] : 0;
-        }
-
-        private int presentKind() {
-            if (!isPresent()) {
-                return END;
-            }
-            int kind = kinds[present];
-            boolean isTooLong = kind == WORD && lengths[present] > MOST_LETTERS
-                    || kind == NUMBER && lengths[present] > MOST_DIGITS;
-            return isTooLong ? INVALID : kind;
         }
 
         void advance() {
             present++;
+            if (present < 0 || present >= count || present >= kinds.length) {
+                start = length;
+                size = 0;
+                kind = END;
+                return;
+            }
+            start = starts[present];
+            size = sizes[present];
+            kind = kinds[present];
+            if (kind == WORD && size > MOST_LETTERS || kind == NUMBER && size > MOST_DIGITS) {
+                kind = INVALID;
+            }
         }
 
         boolean isAtEnd() {
-            return presentKind() == END;
+            return kind == END;
         }
 
         boolean isWord(String word) {
-            if (presentKind() != WORD || presentLength() != word.length()) {
+            if (kind != WORD || size != word.length()) {
                 return false;
             }
-            int start = presentStart();
             for (int i = 0; i < word.length(); i++) {
                 if (byteAt(start + i) != word.charAt(i)) {
                     return false;
@@ -1758,7 +1751,7 @@ public final class ReliefBuilder {
         }
 
         boolean isSign(char sign) {
-            return presentKind() == SIGN && byteAt(presentStart()) == sign;
+            return kind == SIGN && byteAt(start) == sign;
         }
 
         /** Tells an error at the present token; the answer, false, is for the caller to hand on. */
@@ -1785,15 +1778,13 @@ public final class ReliefBuilder {
 
         /** Answers NONE if there is an error. */
         int takeNumber(int least, int most) {
-            if (presentKind() != NUMBER) {
+            if (kind != NUMBER) {
                 code = NOT_ALLOWED;
                 return NONE;
             }
             int number = 0;
-            int start = presentStart();
-            int end = start + presentLength();
-            for (int i = start; i < end; i++) {
-                number = number * 10 + (byteAt(i) - '0');
+            for (int i = 0; i < size; i++) {
+                number = number * 10 + (byteAt(start + i) - '0');
             }
             if (number < least || number > most) {
                 code = OUT_OF_RANGE;
@@ -2065,11 +2056,13 @@ public final class ReliefBuilder {
             count++;
             commands[i] = command;
             tokens.advance();
-            if (!readNumbers(command, i) || command == Command.REPEAT && !readBrackets(depth)) {
+            if (!readNumbers(command, i)) {
                 return false;
             }
+            boolean isRight = command != Command.REPEAT
+                    || tokens.takeSign('(') && readCommands(depth + 1) && tokens.takeSign(')');
             ends[i] = count;
-            return tokens.takeSign(';');
+            return isRight && tokens.takeSign(';');
         }
 
         private Command presentCommand() {
@@ -2092,10 +2085,6 @@ public final class ReliefBuilder {
                 numbers[i * MOST_NUMBERS + n] = number;
             }
             return true;
-        }
-
-        private boolean readBrackets(int depth) {
-            return tokens.takeSign('(') && readCommands(depth + 1) && tokens.takeSign(')');
         }
     }
 }

@@ -96,8 +96,9 @@ public final class TextTest {
         Check.due("4: heights follow the last word", "2 2 2 2 / 2 2 2 2 / 2 2 2 2 / 3 2 3 2", () -> Check.picture(b));
         Check.due("4: least", 5, () -> Check.read(b, "panel 1 1;steps 1 glass 10 base 0;wall 1;slope 0;row 0;"));
         Check.due("4: least", "1 1 1 10 0 1 0 |0|1|", () -> Check.look(b).substring(0, 20));
-        Check.due("4: greatest", 4, () -> Check.read(b, "panel 16 12;steps 20 glass 99 base 20;wall 4;slope 9;"));
-        Check.due("4: greatest", "16 12 20 99 20 4 9 |", () -> Check.look(b).substring(0, 20));
+        ReliefBuilder wide = new ReliefBuilder();
+        Check.due("4: greatest", 4, () -> Check.read(wide, "panel 16 12;steps 20 glass 99 base 20;wall 4;slope 9;"));
+        Check.due("4: greatest", "16 12 20 99 20 4 9 |", () -> Check.look(wide).substring(0, 20));
     }
 
     private static void tokens() {
