@@ -1636,9 +1636,9 @@ public final class ReliefBuilder {
         private static final int MOST_DIGITS = 4;
 
         private final byte[] bytes = new byte[MOST_BYTES];
-        private final int[] starts = new int[MOST_BYTES + 1];
-        private final int[] sizes = new int[MOST_BYTES + 1];
-        private final int[] kinds = new int[MOST_BYTES + 1];
+        private final int[] starts = new int[MOST_BYTES];
+        private final int[] sizes = new int[MOST_BYTES];
+        private final int[] kinds = new int[MOST_BYTES];
         int length;
         private int count;
         private int present;
@@ -1684,7 +1684,6 @@ public final class ReliefBuilder {
                 }
                 previous = next;
             }
-            addToken(length, END);
             present = -1;
             advance();
         }

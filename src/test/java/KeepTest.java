@@ -27,6 +27,9 @@ public final class KeepTest {
         Check.due("61: in place of it", 12, b::report);
         Check.due("62: in place of it", "7 7 7\n7 7 7\n", () -> Check.reportText(b, 12));
         Check.index("62: shorter now", () -> b.reportByte(12));
+        ReliefBuilder high = Check.heights("steps 20 glass 80 base 0;", "18 19 10 11");
+        Check.due("61: two digits", 12, high::report);
+        Check.due("62: two digits", "18 19 10 11\n", () -> Check.reportText(high, 12));
         ReliefBuilder one = Check.relief("panel 1 1;");
         Check.due("61: one cell", 2, one::report);
         Check.due("62: one cell", "1\n", () -> Check.reportText(one, 2));

@@ -85,6 +85,7 @@ public final class LayerTest {
         Check.due("41: the last", 3, () -> letters().largest(1));
         Check.due("41: the first of several", 0, () -> Check.heights(STEPS, "1 1 0 1 1").largest(1));
         Check.due("41: a high one", 1, () -> Check.heights(STEPS, "0 0 1 / 0 0 1 / 0 0 1 / 1 1 0").largest(1));
+        Check.due("41: one cell each", 0, () -> Check.heights(STEPS, "0 1 0 / 1 0 1").largest(1));
         Check.due("41: cells count", 1, () -> Check.heights(STEPS, "1 1 1 1 / 0 0 0 1 / 0 0 0 1 / 0 0 0 1").largest(1));
     }
 

@@ -53,8 +53,12 @@ public final class LightTest {
         Check.due("15: not above the greatest", 3, () -> based.heightFor(0));
         // With 20 percent the light of 1 and of 2 is 51 / 255 and about 10 / 255.
         ReliefBuilder steep = Check.relief("steps 2 glass 20 base 0;");
-        Check.due("15: as far from both, the lowest one", 0, () -> steep.heightFor(153));
+        Check.due("15: nearer", 0, () -> steep.heightFor(154));
         Check.due("15: nearer", 1, () -> steep.heightFor(152));
+        // As floats all these lights are as far from 1: the difference is 1.
+        ReliefBuilder dark = Check.relief("steps 20 glass 10 base 10;");
+        Check.due("15: the lowest one of several", 10, () -> dark.heightFor(255));
+        Check.due("15: but not for black", 20, () -> dark.heightFor(0));
     }
 
     private static void wantedAndEstimate() {
@@ -118,6 +122,17 @@ public final class LightTest {
         Check.due("22: on the right", 1, () -> Check.heights("", "3 1 / 2 1").brightest());
         Check.due("23: the lower one", 0, b::darkestRow);
         Check.due("24: contrast", greatest - least, b::contrast);
+        Check.due("20: beside the first", 1, () -> Check.heights("row 255 0;", "1 1").worstCell());
+        Check.due("20: above the first", 16, () -> Check.heights("row 255;row 0;", "1 / 1").worstCell());
+        Check.due("22: above the first", 16, () -> Check.heights("", "1 / 8").brightest());
+        for (String picture : new String[] {"1 8", "8 1", "1 / 8", "8 / 1", "8 8 8 / 8 8 1"}) {
+            ReliefBuilder two = Check.heights("", picture);
+            java.util.List<Float> estimates = new java.util.ArrayList<>();
+            Check.rows(two, (x, y) -> estimates.add(two.estimate(x, y)));
+            estimates.sort(null);
+            float want = estimates.get(estimates.size() - 1) - estimates.get(0);
+            Check.due("24: " + picture, want, two::contrast);
+        }
         Check.due("19: nothing is wrong", 0.0f, () -> Check.relief("steps 8 glass 80 base 0;").meanError());
     }
 
@@ -212,21 +227,34 @@ public final class LightTest {
         String[] rows = {"row 255 250 255;row 250 99 250;", "row 0 9 200;row 30 180 90;row 77 66 55;",
             "row 128 128 128;row 128 128 128;row 128 128 128;", "row 90 60 30 15;row 15 30 60 90;"};
         for (int i = 0; i < pictures.length; i++) {
-            String settings = "steps 8 glass 75 base 1;" + rows[i];
-            ReliefBuilder b = Check.heights(settings, pictures[i]);
-            ReliefBuilder slow = Check.heights(settings, pictures[i]);
-            int width = slow.setting(0);
-            int lines = slow.setting(1);
-            int changed = 0;
-            for (int y = 0; y < lines; y++) {
-                for (int x = 0; x < width; x++) {
-                    changed += polishCell(slow, width, lines, x, y);
-                }
-            }
-            int changes = changed;
-            Check.due("51: changed", changes, b::polish);
-            Check.due("51: heights", Check.picture(slow), () -> Check.picture(b));
+            polishAsTold("steps 8 glass 75 base 1;" + rows[i], pictures[i]);
         }
+        java.util.Random random = new java.util.Random(51);
+        for (int n = 0; n < 60; n++) {
+            StringBuilder row = new StringBuilder("row");
+            StringBuilder picture = new StringBuilder();
+            for (int cell = 0; cell < 9; cell++) {
+                row.append(cell > 0 && cell % 3 == 0 ? ";row " : " ").append(random.nextInt(256));
+                picture.append(cell > 0 && cell % 3 == 0 ? " / " : " ").append(1 + random.nextInt(8));
+            }
+            polishAsTold("steps 8 glass 75 base 1;" + row + ";", picture.toString());
+        }
+    }
+
+    private static void polishAsTold(String settings, String picture) {
+        ReliefBuilder b = Check.heights(settings, picture);
+        ReliefBuilder slow = Check.heights(settings, picture);
+        int width = slow.setting(0);
+        int lines = slow.setting(1);
+        int changed = 0;
+        for (int y = 0; y < lines; y++) {
+            for (int x = 0; x < width; x++) {
+                changed += polishCell(slow, width, lines, x, y);
+            }
+        }
+        int changes = changed;
+        Check.due("51: changed", changes, b::polish);
+        Check.due("51: heights", Check.picture(slow), () -> Check.picture(b));
     }
 
     private static int polishCell(ReliefBuilder b, int width, int rows, int x, int y) {
@@ -259,10 +287,10 @@ public final class LightTest {
         Check.due("51: not above the greatest", "3 3 / 3 3", () -> Check.picture(high));
         ReliefBuilder one = Check.relief("panel 3 3;steps 4 glass 50 base 4;row 200 100 0;");
         Check.due("51: one height alone", 0, one::polish);
-        // Height 0 is as much too bright as height 1 is too dark: the lowest one of several.
-        ReliefBuilder tie = Check.relief("panel 1 1;steps 1 glass 20 base 0;row 153;");
-        tie.setHeight(0, 0, 1);
+        // As floats the errors of all these heights are -1: the lowest one of several.
+        ReliefBuilder tie = Check.relief("panel 1 1;steps 20 glass 10 base 10;");
+        tie.setHeight(0, 0, 15);
         Check.due("51: as good, but lower", 1, tie::polish);
-        Check.due("51: as good, but lower", 0, () -> tie.height(0, 0));
+        Check.due("51: as good, but lower", 14, () -> tie.height(0, 0));
     }
 }

@@ -51,6 +51,8 @@ public final class PanelTest {
         Check.due("13: one cell", 0, () -> Check.relief("panel 1 1;row 0;").steepest());
         Check.due("13: beside", 4, () -> Check.heights("", "1 1 1 / 1 5 2").steepest());
         Check.due("13: beside", 6, () -> Check.heights("", "1 7 2").steepest());
+        Check.due("13: at the right end", 6, () -> Check.heights("", "1 1 7").steepest());
+        Check.due("13: at the upper end", 6, () -> Check.heights("", "7 / 1 / 1").steepest());
         Check.due("13: above", 6, () -> Check.heights("", "7 / 1").steepest());
         Check.due("13: below", 6, () -> Check.heights("", "1 / 7").steepest());
         Check.due("13: not across a corner", 1, () -> Check.heights("", "2 3 / 1 2").steepest());

@@ -201,6 +201,7 @@ public final class ScriptTest {
     }
 
     private static void countErrors() {
+        error("(".repeat(900), 1, 0);
         String thirty = "ease;".repeat(30);
         ReliefBuilder b = Check.relief("panel 1 1;");
         Check.due("5: thirty", 30, () -> Check.run(b, thirty));

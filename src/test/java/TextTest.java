@@ -6,6 +6,7 @@ public final class TextTest {
         truncate();
         statements();
         tokens();
+        longestTexts();
         firstErrors();
         rangeErrors();
         orderErrors();
@@ -124,7 +125,27 @@ public final class TextTest {
         error(b, "panelled 3 3;", 1, 0);
         error(b, "panelling 3 3;", 1, 0);
         error(b, "wallwall 3;", 1, 0);
+        error(b, "wallz 3;", 1, 0);
+        error(b, "wall 3;z", 1, 7);
+        error(b, "walla 3;", 1, 0);
+        error(b, "ball 3;", 1, 0);
+        error(b, "walk 3;", 1, 0);
         error(b, "panel 3 3;wall 3;(", 1, 17);
+    }
+
+    private static void longestTexts() {
+        ReliefBuilder b = new ReliefBuilder();
+        error(b, ";".repeat(900), 1, 0);
+        error(b, " ".repeat(899) + "a", 1, 899);
+        error(b, "wall 3" + " ".repeat(894), 1, 900);
+        error(b, "a".repeat(900), 1, 0);
+        error(b, "9".repeat(900), 1, 0);
+        ReliefBuilder right = new ReliefBuilder();
+        Check.due("4: 900 bytes", 1, () -> Check.read(right, "wall 3" + " ".repeat(893) + ";"));
+        ReliefBuilder row = new ReliefBuilder();
+        String rows = "row 255 254 253 252 251 250 249 248 247 246 245 244 243 242 241 240;".repeat(12);
+        Check.due("4: all rows", 13, () -> Check.read(row, "panel 16 12;" + rows));
+        Check.due("4: all rows", 240, () -> row.tone(15, 11));
     }
 
     private static void firstErrors() {

@@ -146,6 +146,9 @@ public final class WallTest {
         ReliefBuilder b = Check.heights(STEPS + "slope 1;", "9 1 / 2 0 / 5 0 / 0 0 / 8 0");
         Check.due("32: two", 2, b::supportedCells);
         Check.due("33: all", 4 * 1 + 15, b::supportVolume);
+        ReliefBuilder low = Check.heights(STEPS, "0 5 0 9 / 0 3 0 2");
+        Check.due("32: by 1, in the second row, and at the end", 2, low::supportedCells);
+        Check.due("33: by 1, in the second row, and at the end", 1 + 6, low::supportVolume);
         ReliefBuilder none = Check.heights(STEPS, "3 3 / 2 3 / 1 9");
         Check.due("32: none", 0, none::supportedCells);
         Check.due("33: none", 0, none::supportVolume);
@@ -167,6 +170,7 @@ public final class WallTest {
         Check.due("35: none", 0, () -> Check.heights(STEPS + "slope 3;", "0 1 / 5 1").safeSlope());
         Check.due("35: one row", 0, () -> Check.heights(STEPS, "0 20").safeSlope());
         Check.due("35: some", 4, () -> Check.heights(STEPS, "9 1 / 5 0 / 20 3").safeSlope());
+        Check.due("35: at the end", 7, () -> Check.heights(STEPS, "1 2 9 / 0 1 2").safeSlope());
         Check.due("35: the most", 20, () -> Check.heights(STEPS + "slope 9;", "20 / 0").safeSlope());
     }
 }
