@@ -11,8 +11,18 @@ final class Check {
 
     private static int wrong;
     private static int checks;
+    private static String place = "";
 
     private Check() {
+    }
+
+    /** Tells where in the document the checks that follow belong. */
+    static void within(String newPlace) {
+        place = newPlace;
+    }
+
+    static int count() {
+        return checks;
     }
 
     static void due(String what, Object want, Call call) {
@@ -25,7 +35,7 @@ final class Check {
         }
         if (!want.equals(got)) {
             wrong++;
-            System.out.println(what + ": answered " + got + ", due is " + want);
+            System.out.println(place + what + ": answered " + got + ", due is " + want);
         }
     }
 
