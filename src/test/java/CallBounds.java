@@ -1,7 +1,7 @@
 import java.util.LinkedHashMap;
 import java.util.Map;
 
-/** The paragraph behind section 8: which exception is thrown, that it changes nothing, what x, y, rack, place, layer are. */
+/** The paragraph behind section 8: which exception is thrown, what it changes, what x, y, rack, place, layer may be. */
 final class CallBounds {
     private interface OfTwo {
         Object of(ReliefBuilder b, int first, int second);
@@ -90,11 +90,13 @@ final class CallBounds {
         }
     }
 
-    @Sentence(of = "behind section 8", says = "rack and place of a place in a rack; otherwise IndexOutOfBoundsException is thrown")
+    @Sentence(of = "behind section 8",
+            says = "rack and place of a place in a rack; otherwise IndexOutOfBoundsException is thrown")
     static void places() {
         int[][] inside = {{0, 0}, {0, 3}, {1, 0}, {1, 3}, {2, 0}, {2, 3}};
         int[][] outside = {{-1, 0}, {3, 0}, {0, -1}, {0, 4}, {1, -1}, {2, 4}, {-1, 4}, {3, 3}, {-1, -1}, {3, 4},
-            {Integer.MIN_VALUE, 0}, {Integer.MAX_VALUE, 0}, {0, Integer.MIN_VALUE}, {0, Integer.MAX_VALUE}, {1 << 30, 0}};
+            {Integer.MIN_VALUE, 0}, {Integer.MAX_VALUE, 0}, {0, Integer.MIN_VALUE}, {0, Integer.MAX_VALUE},
+            {1 << 30, 0}};
         callsOfPlaces().forEach((name, call) -> {
             for (int[] place : inside) {
                 ReliefBuilder b = stamps();
@@ -117,7 +119,8 @@ final class CallBounds {
         return b;
     }
 
-    @Sentence(of = "behind section 8", says = "The parameter layer is 1 to the greatest height; otherwise IllegalArgumentException")
+    @Sentence(of = "behind section 8",
+            says = "The parameter layer is 1 to the greatest height; otherwise IllegalArgumentException")
     static void layers() {
         for (int greatest : new int[] {1, 8, 20}) {
             callsOfLayers().forEach((name, call) -> {
@@ -133,7 +136,8 @@ final class CallBounds {
 
     // ---- which exception is thrown
 
-    @Sentence(of = "behind section 8", says = "If several exceptions apply to a call, the one that is listed first is thrown.")
+    @Sentence(of = "behind section 8",
+            says = "If several exceptions apply to a call, the one that is listed first is thrown.")
     static void firstListed() {
         Whole.index("31: the cell ahead of d", b -> b.supportOf(3, 0, 0));
         Whole.argument("31: d alone", b -> b.supportOf(2, 0, 0));
@@ -164,7 +168,8 @@ final class CallBounds {
 
     // ---- that it changes nothing
 
-    @Sentence(of = "behind section 8", says = "A call that throws an exception changes nothing, unless something else is said.")
+    @Sentence(of = "behind section 8",
+            says = "A call that throws an exception changes nothing, unless something else is said.")
     static void changesNothing() {
         callsOfCells().forEach((name, call) -> {
             for (int[] cell : new int[][] {{-1, 0}, {3, 0}, {0, -1}, {0, 2}}) {

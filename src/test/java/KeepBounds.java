@@ -29,7 +29,8 @@ final class KeepBounds {
 
     // ---- section 7
 
-    @Sentence(of = "section 7", says = "Each call of setTone(), setHeight(), fill(), repair(), smooth(), ease(), dither()")
+    @Sentence(of = "section 7",
+            says = "Each call of setTone(), setHeight(), fill(), repair(), smooth(), ease(), dither()")
     static void eachChange() {
         for (String name : CHANGES) {
             ReliefBuilder b = Check.relief(TONES);
@@ -125,12 +126,10 @@ final class KeepBounds {
 
     @Sentence(of = "section 7", says = "readText() and restore() forget them.")
     static void forgotten() {
-        ReliefBuilder read = Whole.object();
-        read.truncate(0);
+        ReliefBuilder read = Whole.object("");
         Check.due("readText()", 0, read::readText);
         Check.due("readText()", -1, read::undo);
-        ReliefBuilder wrong = Whole.object();
-        Check.due("more in the buffer", 27, () -> wrong.feed(0, 0, 0, 0, 0));
+        ReliefBuilder wrong = Whole.object("wall 0;");
         Check.argument("a text with an error", wrong::readText);
         Check.due("forgets nothing", 2, wrong::undo);
         ReliefBuilder restored = Whole.object();
@@ -367,12 +366,14 @@ final class KeepBounds {
         Check.due("slot 0", true, () -> Whole.object().restore(0) > 0);
     }
 
-    @Sentence(of = "promise 65", says = "if nothing was saved there, or the width, the number of rows, the greatest height or")
+    @Sentence(of = "promise 65",
+            says = "if nothing was saved there, or the width, the number of rows, the greatest height or")
     static void notToRestore() {
         Whole.state("nothing was saved there", b -> b.restore(1));
         Check.state("nothing at all", () -> new ReliefBuilder().restore(0));
         String[] others = {"panel 2 2;steps 9 glass 80 base 1;", "panel 4 2;steps 9 glass 80 base 1;",
-            "panel 3 1;steps 9 glass 80 base 1;", "panel 3 3;steps 9 glass 80 base 1;", "panel 2 3;steps 9 glass 80 base 1;",
+            "panel 3 1;steps 9 glass 80 base 1;", "panel 3 3;steps 9 glass 80 base 1;",
+            "panel 2 3;steps 9 glass 80 base 1;",
             "panel 3 2;steps 8 glass 80 base 1;", "panel 3 2;steps 10 glass 80 base 1;",
             "panel 3 2;steps 9 glass 80 base 0;", "panel 3 2;steps 9 glass 80 base 2;"};
         for (String other : others) {

@@ -16,6 +16,8 @@ import java.util.regex.Pattern;
 /** The face that the document tells, and those rules of LANGUAGE.md that can be seen in the file. */
 public final class LanguageTest {
     private static final Path SOURCE = Path.of("src/main/java/ReliefBuilder.java");
+    private static final Set<String> LIBRARY = Set.of("java.util.Arrays", "java.util.ArrayList", "java.util.List",
+            "java.util.Iterator", "java.util.NoSuchElementException");
     private static final Path DOCUMENT = Path.of("../shared/DOC.md");
 
     public static void main(String[] args) throws IOException {
@@ -82,7 +84,9 @@ public final class LanguageTest {
         }
         for (Class<?> nested : ReliefBuilder.class.getDeclaredClasses()) {
             for (Method method : nested.getDeclaredMethods()) {
-                hidden.add(method.getName());
+                if (Modifier.isPrivate(method.getModifiers())) {
+                    hidden.add(method.getName());
+                }
             }
         }
         hidden.retainAll(face);
@@ -103,17 +107,21 @@ public final class LanguageTest {
     private static void source() throws IOException {
         String source = Files.readString(SOURCE);
         String code = source.replaceAll("(?s)/\\*.*?\\*/", "").replaceAll("//[^\n]*", "");
-        String[] forbidden = {"->", "::", "\\bcatch\\b", "\\bfinally\\b", "\\bassert\\b", "\\bsynchronized\\b",
-            "\\bpackage\\b", "\\bthread\\b", "\\bRandom\\b", "\\bSystem\\.(?!arraycopy)", "\\bFloat\\b", "\\bDouble\\b",
-            "\\bString\\.", "\\w+Exact\\(", "\\bprotected\\b", "\\bstatic \\{", "\\binstanceof\\b", "\" *\\+", "\\+ *\""};
+        String withoutCases = code.replaceAll("\\b(case\\b[^;{}>]*|default\\s*)->", "");
+        Check.due("rule 2: no lambda", false, () -> withoutCases.contains("->"));
+        String[] forbidden = {"::", "\\bfinally\\b", "\\bassert\\b", "\\bsynchronized\\b", "\\bpackage\\b",
+            "\\bThread\\b", "\\bRandom\\b", "\\bSystem\\.(?!arraycopy)", "\\bFloat\\b", "\\bDouble\\b", "\\bString\\.",
+            "\\w+Exact\\(", "\\bprotected\\b", "\\bstatic \\{", "\" *\\+", "\\+ *\"", "\\bcatch *\\((?![^)]*Exception)",
+            "\\bcatch *\\([^)]*(\\bException|ArrayIndex|NullPointer|ClassCast|NegativeArray|ArrayStore)"};
         for (String pattern : forbidden) {
             Matcher matcher = Pattern.compile(pattern).matcher(code);
             Check.due("rules: " + pattern, false, matcher::find);
         }
         Matcher imports = Pattern.compile("import ([^;]+);").matcher(code);
         while (imports.find()) {
-            Check.due("rule 4: the library", "java.util.Arrays", () -> imports.group(1));
+            String name = imports.group(1);
+            Check.due("rule 4: " + name, true, () -> LIBRARY.contains(name));
         }
-        Check.due("plain signs", true, () -> source.chars().allMatch(c -> c == '\n' || c >= 32 && c < 127));
+        Check.due("plain signs", true, () -> code.chars().allMatch(c -> c == '\n' || c >= 32 && c < 127));
     }
 }

@@ -71,7 +71,8 @@ final class LayerBounds {
         Check.due("another begin", "1 0 2 1, 0 1 3 1", () -> rectangles(of("1 1 1 0 / 0 1 1 0"), 1));
         Check.due("another end", "1 0 2 1, 1 1 3 1", () -> rectangles(of("0 1 1 1 / 0 1 1 0"), 1));
         Check.due("a row in between", "1 0 2 1, 1 2 2 1", () -> rectangles(of("0 1 1 / 0 0 0 / 0 1 1"), 1));
-        Check.due("another run in between", "1 0 1 1, 1 1 2 1, 1 2 1 1", () -> rectangles(of("0 1 0 / 0 1 1 / 0 1 0"), 1));
+        Check.due("another run in between", "1 0 1 1, 1 1 2 1, 1 2 1 1",
+                () -> rectangles(of("0 1 0 / 0 1 1 / 0 1 0"), 1));
         Check.due("as many as possible", "0 0 1 5", () -> rectangles(of("1 / 2 / 1 / 3 / 1"), 1));
         Check.due("the whole panel", "0 0 16 12", () -> rectangles(high(20), 20));
         Check.due("side by side", "0 0 1 2, 2 0 1 2", () -> rectangles(of("1 0 1 / 1 0 1"), 1));
@@ -102,7 +103,8 @@ final class LayerBounds {
         Check.due("round two turns", 1, () -> of("1 1 1 / 1 0 0 / 1 1 1 / 0 0 1 / 1 1 1").parts(1));
     }
 
-    @Sentence(of = "section 5", says = "(Neighbors of a cell are, here and everywhere, those on its left and on its right")
+    @Sentence(of = "section 5",
+            says = "(Neighbors of a cell are, here and everywhere, those on its left and on its right")
     static void neighbors() {
         Check.due("not the end of the row below", 2, () -> of("1 0 0 / 0 0 1").parts(1));
         Check.due("not the other end of its row", 2, () -> of("1 0 1").parts(1));

@@ -248,7 +248,8 @@ final class LightBounds {
                 () -> Check.heights("steps 4 glass 50 base 0;row 0 255;", "1 1").meanError());
     }
 
-    @Sentence(of = "promise 20", says = "the cell with the greatest absolute value of the error, the first one of several")
+    @Sentence(of = "promise 20",
+            says = "the cell with the greatest absolute value of the error, the first one of several")
     static void worstCell() {
         Check.due("one cell", 0, () -> Check.relief("panel 1 1;").worstCell());
         Check.due("all as bad", 0, () -> Check.relief("panel 16 12;").worstCell());
@@ -258,7 +259,8 @@ final class LightBounds {
         Check.due("too dark is as bad as too bright", 0, () -> Check.heights(HALVES + "row 255 0;", "1 1").worstCell());
         Check.due("too bright is worse", 1, () -> Check.heights(HALVES + "row 255 0;", "0 0").worstCell());
         Check.due("too dark is worse", 1, () -> Check.heights(HALVES + "row 0 255;", "4 4").worstCell());
-        Check.due("the second cell", 1, () -> Check.heights(HALVES + "row 255 0;row 255 255;", "0 0 / 0 0").worstCell());
+        Check.due("the second cell", 1,
+                () -> Check.heights(HALVES + "row 255 0;row 255 255;", "0 0 / 0 0").worstCell());
         Check.due("the first one of the second row", 16,
                 () -> Check.heights(HALVES + "row 255 255;row 0 255;", "0 0 / 0 0").worstCell());
         ReliefBuilder last = Check.relief("panel 16 12;" + HALVES);
@@ -310,7 +312,8 @@ final class LightBounds {
         Check.due("one row", 0, () -> Check.relief("panel 3 1;").darkestRow());
         Check.due("all as dark", 0, () -> Check.relief("panel 16 12;").darkestRow());
         Check.due("two as dark", 1, () -> Check.heights(HALVES, "0 / 4 / 0 / 4 / 0").darkestRow());
-        Check.due("the lower one is a little less dark", 3, () -> Check.heights(HALVES, "0 / 4 / 0 / 3 / 0").darkestRow());
+        Check.due("the lower one is a little less dark", 3,
+                () -> Check.heights(HALVES, "0 / 4 / 0 / 3 / 0").darkestRow());
         ReliefBuilder last = Check.relief("panel 16 12;" + HALVES);
         last.fill(0, 11, 16, 1, 4);
         Check.due("the uppermost one", 11, last::darkestRow);
@@ -337,7 +340,7 @@ final class LightBounds {
 
     @Sentence(of = "promise 50", says = "at its beginning this is 0.0f")
     static void ditherRows() {
-        ReliefBuilder b = Check.relief("panel 3 3;steps 1 glass 10 base 0;row 128 128 128;row 128 128 128;row 128 128 128;");
+        ReliefBuilder b = Check.relief("panel 3 3;steps 1 glass 10 base 0;" + "row 128 128 128;".repeat(3));
         b.dither();
         Check.due("all rows begin alike", "1 0 1 / 1 0 1 / 1 0 1", () -> Check.picture(b));
         ReliefBuilder column = Check.relief("panel 1 12;steps 1 glass 10 base 0;" + "row 128;".repeat(12));

@@ -3,7 +3,8 @@ final class ScriptBounds {
     private static final String PANEL = "panel 3 2;steps 9 glass 70 base 1;";
     private static final String[] PLAIN_COMMANDS = {"repair", "ease", "dither", "polish", "invert", "mirror"};
     /** Each command with numbers, all of which are the least ones that the text may have. */
-    private static final String[] NUMBERED = {"tone 0 0 0", "height 0 0 0", "fill 0 0 0 0 0", "stamp 0 0 0 0", "smooth 0"};
+    private static final String[] NUMBERED = {"tone 0 0 0", "height 0 0 0", "fill 0 0 0 0 0", "stamp 0 0 0 0",
+        "smooth 0"};
 
     private ScriptBounds() {
     }
@@ -270,14 +271,22 @@ final class ScriptBounds {
 
     @Sentence(of = "promise 5", says = "only the buffer, errorCode() and errorPosition() change then")
     static void unchangedByError() {
-        for (String script : new String[] {"oh", "invert;oh", "tone 0 0 0;height 1 1 10;fill 0 0 1 1 21;", "repeat 0();",
-            "mirror", "repeat 2(repeat 2(invert;repeat 2(invert;);););", "ease;".repeat(31), "dither;repair;("}) {
-            ReliefBuilder b = Whole.object();
-            Check.put(b, script);
-            Check.argument(script, b::runScript);
-            Check.argument(script + " empties the buffer", () -> b.truncate(1));
-            Check.due(script + " tells an error", true, () -> b.errorCode() > 0);
-            Check.due(script + " changes nothing else", Whole.seen(Whole.object()), () -> Whole.seen(b));
-        }
+        leaves("oh", 1, 0);
+        leaves("invert;oh", 1, 7);
+        leaves("tone 0 0 0;height 1 1 10;fill 0 0 1 1 21;", 2, 38);
+        leaves("repeat 0();", 2, 7);
+        leaves("mirror", 1, 6);
+        leaves("repeat 2(repeat 2(invert;repeat 2(invert;);););", 3, 25);
+        leaves("ease;".repeat(31), 5, 150);
+        leaves("dither;repair;(", 1, 14);
+    }
+
+    private static void leaves(String script, int code, int position) {
+        ReliefBuilder b = Whole.object(script);
+        Check.argument(script, b::runScript);
+        Check.due(script + " code", code, b::errorCode);
+        Check.due(script + " position", position, b::errorPosition);
+        Check.argument(script + " empties the buffer", () -> b.truncate(1));
+        Check.due(script + " changes nothing else", Whole.seen(Whole.object()), () -> Whole.seen(b));
     }
 }

@@ -36,7 +36,8 @@ final class StampBounds {
         }
     }
 
-    @Sentence(of = "section 6", says = "A stamp is a hole (0) or a post (1), with a size (1 to 6 cells) and a depth (1 to 20)")
+    @Sentence(of = "section 6",
+            says = "A stamp is a hole (0) or a post (1), with a size (1 to 6 cells) and a depth (1 to 20)")
     static void stamps() {
         for (int kind = -1; kind <= 2; kind++) {
             int k = kind;
@@ -76,18 +77,23 @@ final class StampBounds {
         }
     }
 
-    @Sentence(of = "section 6", says = "all cells of the square with this size whose lowest left cell it is, as far as they")
+    @Sentence(of = "section 6",
+            says = "all cells of the square with this size whose lowest left cell it is, as far as they")
     static void square() {
         String flat = "1 1 1 / 1 1 1 / 1 1 1";
-        String[] post = {"1 1 1 / 1 1 1 / 3 1 1", "1 1 1 / 3 3 1 / 3 3 1", "3 3 3 / 3 3 3 / 3 3 3", "3 3 3 / 3 3 3 / 3 3 3"};
+        String[] post = {"1 1 1 / 1 1 1 / 3 1 1", "1 1 1 / 3 3 1 / 3 3 1", "3 3 3 / 3 3 3 / 3 3 3",
+            "3 3 3 / 3 3 3 / 3 3 3"};
         for (int size = 1; size <= 4; size++) {
             int s = size;
             Check.due("size " + size, post[size - 1], () -> Check.picture(stamped("", flat, POST, s, 2, 0, 0)));
         }
-        Check.due("over the right edge", "1 1 1 / 1 1 3 / 1 1 3", () -> Check.picture(stamped("", flat, POST, 2, 2, 2, 0)));
-        Check.due("over the upper edge", "3 3 1 / 1 1 1 / 1 1 1", () -> Check.picture(stamped("", flat, POST, 2, 2, 0, 2)));
+        Check.due("over the right edge", "1 1 1 / 1 1 3 / 1 1 3",
+                () -> Check.picture(stamped("", flat, POST, 2, 2, 2, 0)));
+        Check.due("over the upper edge", "3 3 1 / 1 1 1 / 1 1 1",
+                () -> Check.picture(stamped("", flat, POST, 2, 2, 0, 2)));
         Check.due("over both", "1 1 3 / 1 1 1 / 1 1 1", () -> Check.picture(stamped("", flat, POST, 6, 2, 2, 2)));
-        Check.due("it ends at the edge", "1 3 3 / 1 3 3 / 1 1 1", () -> Check.picture(stamped("", flat, POST, 2, 2, 1, 1)));
+        Check.due("it ends at the edge", "1 3 3 / 1 3 3 / 1 1 1",
+                () -> Check.picture(stamped("", flat, POST, 2, 2, 1, 1)));
         ReliefBuilder wide = Check.relief("panel 16 12;");
         wide.putStamp(1, 0, POST, 6, 2);
         Check.due("36 cells", 36, () -> wide.stamp(1, 0, 10, 6));
@@ -222,7 +228,8 @@ final class StampBounds {
 
     // ---- promise 58
 
-    @Sentence(of = "promise 58", says = "Moves a stamp into another place, instead of one that is there; it may be the same")
+    @Sentence(of = "promise 58",
+            says = "Moves a stamp into another place, instead of one that is there; it may be the same")
     static void move() {
         Whole.still("the same place", true, b -> b.moveStamp(0, 1, 0, 1));
         Whole.still("the same place of rack 1", true, b -> b.moveStamp(1, 3, 1, 3));

@@ -93,6 +93,8 @@ final class TextBounds {
     static void words() {
         wrong("wall`3;", 1, 4);
         wrong("wall{3;", 1, 4);
+        wrong("wall\u00e93;", 1, 4);
+        wrong("wall\03;", 1, 4);
         wrong("wallA3;", 1, 4);
         wrong("wallZ3;", 1, 4);
         wrong("wallz3;", 1, 0);
@@ -257,7 +259,8 @@ final class TextBounds {
         Check.due("2 again", 2, () -> b.setting(5));
     }
 
-    @Sentence(of = "section 1", says = "\"slope\" by how much a cell may stand out over the one below it (0 to 9; 1 without")
+    @Sentence(of = "section 1",
+            says = "\"slope\" by how much a cell may stand out over the one below it (0 to 9; 1 without")
     static void slope() {
         setTo("slope 0;", 6, 0);
         setTo("slope 9;", 6, 9);
@@ -306,7 +309,8 @@ final class TextBounds {
         Check.due("their heights, too", "1 1 / 1 1 / 1 1", () -> Check.picture(b));
     }
 
-    @Sentence(of = "section 1", says = "the index of the first byte of a token, or the length of the text if it ends too")
+    @Sentence(of = "section 1",
+            says = "the index of the first byte of a token, or the length of the text if it ends too")
     static void positions() {
         wrong("z", 1, 0);
         wrong("   z", 1, 3);
@@ -321,7 +325,8 @@ final class TextBounds {
         wrong("row 1 2 3", 1, 9);
     }
 
-    @Sentence(of = "section 1", says = "the first error is reported; if several codes apply at one token, the lowest one")
+    @Sentence(of = "section 1",
+            says = "the first error is reported; if several codes apply at one token, the lowest one")
     static void firstError() {
         wrong("wall 5 5 panel", 2, 5);
         wrong("panel 17 13;", 2, 6);
@@ -335,7 +340,8 @@ final class TextBounds {
         wrong("panel 1 1;row 1;panel 1 1;", 3, 16);
     }
 
-    @Sentence(of = "section 1", says = "1: an invalid token, or a token that the grammar, or the number of tones of a row")
+    @Sentence(of = "section 1",
+            says = "1: an invalid token, or a token that the grammar, or the number of tones of a row")
     static void code1() {
         wrong("wall 3;#", 1, 7);
         wrong("#", 1, 0);
@@ -515,8 +521,7 @@ final class TextBounds {
 
     @Sentence(of = "promise 4", says = "all that there is but the racks, what is saved and the latest report")
     static void replaced() {
-        ReliefBuilder b = Whole.object();
-        b.truncate(0);
+        ReliefBuilder b = Whole.object("");
         Check.due("an empty text", 0, b::readText);
         Check.due("settings, tones and heights go, racks stay", "4 4 8 80 1 2 1 |255 255 255 255 / 255 255 255 255 / "
                 + "255 255 255 255 / 255 255 255 255|1 1 1 1 / 1 1 1 1 / 1 1 1 1 / 1 1 1 1"
@@ -556,16 +561,22 @@ final class TextBounds {
 
     @Sentence(of = "promise 4", says = "only the buffer, errorCode() and errorPosition() change then")
     static void unchangedByError() {
-        String[] texts = {"oh", "panel 16 12;steps 20 glass 10 base 20;wall 4;slope 9;row 1 2 3", "panel 17",
-            "row 1 1 1 1;row 2 2 2 2;wall 0;", "steps 1 glass 10 base 0;steps", "panel 1 1;row 0;row 0;"};
-        for (String text : texts) {
-            ReliefBuilder b = Whole.object();
-            Check.put(b, text);
-            Check.argument(text, b::readText);
-            Check.argument(text + " empties the buffer", () -> b.truncate(1));
-            Check.due(text + " tells an error", true, () -> b.errorCode() > 0);
-            Check.due(text + " changes nothing else", Whole.seen(Whole.object()), () -> Whole.seen(b));
-        }
+        leaves("oh", 1, 0);
+        leaves("panel 16 12;steps 20 glass 10 base 20;wall 4;slope 9;row 1 2 3", 1, 62);
+        leaves("panel 17", 2, 6);
+        leaves("row 1 1 1;wall 4;row 2 2 2", 1, 9);
+        leaves("panel 3 2;row 1 1 1;row 2 2 2;wall 0;", 2, 35);
+        leaves("steps 1 glass 10 base 0;steps", 3, 24);
+        leaves("panel 1 1;row 0;row 0;", 5, 16);
+    }
+
+    private static void leaves(String text, int code, int position) {
+        ReliefBuilder b = Whole.object(text);
+        Check.argument(text, b::readText);
+        Check.due(text + " code", code, b::errorCode);
+        Check.due(text + " position", position, b::errorPosition);
+        Check.argument(text + " empties the buffer", () -> b.truncate(1));
+        Check.due(text + " changes nothing else", Whole.seen(Whole.object()), () -> Whole.seen(b));
     }
 
     @Sentence(of = "promise 6", says = "0 if there was none or no such call")

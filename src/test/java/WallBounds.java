@@ -142,7 +142,8 @@ final class WallBounds {
         Check.due("none", 0, () -> high("wall 4;", 20).thinCells());
         Check.due("none is higher than the base", 0, () -> high("wall 4;", 0).thinCells());
         Check.due("all", 9, () -> Check.heights(STEPS + "wall 4;", "3 3 3 / 3 3 3 / 3 3 3").thinCells());
-        Check.due("a column of 4", 0, () -> Check.heights(STEPS + "wall 4;", "3 3 3 / 3 3 3 / 3 3 3 / 3 3 3").thinCells());
+        Check.due("a column of 4", 0,
+                () -> Check.heights(STEPS + "wall 4;", "3 3 3 / 3 3 3 / 3 3 3 / 3 3 3").thinCells());
         ReliefBuilder b = high("wall 2;", 0);
         b.setHeight(0, 0, 1);
         b.setHeight(15, 11, 1);

@@ -1,4 +1,4 @@
-/** An object with something everywhere, and all that can be seen of it: so that a call can be seen to change nothing. */
+/** An object with something everywhere, and all that can be seen of it: whether a call changes nothing shows by it. */
 final class Whole {
     interface Use {
         Object of(ReliefBuilder builder);
@@ -9,6 +9,11 @@ final class Whole {
 
     /** Three columns and two rows; stamps, a report, a slot, three calls to undo, an error, a text in the buffer. */
     static ReliefBuilder object() {
+        return object("mirror;");
+    }
+
+    /** The same with this text in the buffer. */
+    static ReliefBuilder object(String text) {
         ReliefBuilder b = Check.relief("panel 3 2;steps 9 glass 70 base 1;wall 3;slope 2;row 9 99 199;row 255 0 66;");
         b.putStamp(0, 1, 0, 2, 3);
         b.putStamp(1, 3, 1, 6, 20);
@@ -19,7 +24,7 @@ final class Whole {
         b.setHeight(2, 1, 9);
         b.setTone(1, 1, 130);
         failToRead(b, "wall 3;oh");
-        Check.put(b, "mirror;");
+        Check.put(b, text);
         return b;
     }
 
